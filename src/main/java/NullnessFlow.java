@@ -178,8 +178,6 @@ public final class NullnessFlow {
 
     private void resetAfterEdit() {
         checkerStatus = UNCHECKED;
-        errorCode = OK;
-        errorPlace = NO_PLACE;
         clearMachine();
         machineStatus = NOT_READY;
     }

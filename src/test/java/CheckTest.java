@@ -39,7 +39,8 @@ public final class CheckTest {
 
     private static void empty() {
         accepted("empty", new Subject());
-        answers("empty constructors with a NONNULL field", new Subject().nonNullField(2), NullnessFlow.ERR_INCOMPLETE, 64);
+        answers("empty constructors with a NONNULL field", new Subject().nonNullField(2),
+                NullnessFlow.ERR_INCOMPLETE, 64);
     }
 
     private static void thisRule() {
@@ -57,10 +58,12 @@ public final class CheckTest {
 
     private static void newRules() {
         for (int k = 1; k <= 3; k++) {
-            answers("null to NONNULL", new Subject().param(k, NN, COMMITTED).make(0, k, 1), NullnessFlow.ERR_NULLARG, 0);
+            answers("null to NONNULL", new Subject().param(k, NN, COMMITTED).make(0, k, 1),
+                    NullnessFlow.ERR_NULLARG, 0);
             accepted("null to NULLABLE", new Subject().param(k, MAYBE, COMMITTED).make(0, k, 1));
             accepted("not null to NONNULL", new Subject().param(k, NN, COMMITTED).make(0, k % 3 + 1, 1).make(2, k, 0));
-            answers("committed to FREE", new Subject().param(k, MAYBE, FREE).make(0, k, 1), NullnessFlow.ERR_INITARG, 0);
+            answers("committed to FREE", new Subject().param(k, MAYBE, FREE).make(0, k, 1),
+                    NullnessFlow.ERR_INITARG, 0);
             accepted("committed to UNCLASSIFIED", new Subject().param(k, MAYBE, UNCLASSIFIED).make(0, k, 1));
             int from = k % 3 + 1;
             int place = 64 * from;
@@ -99,7 +102,8 @@ public final class CheckTest {
         answers("what a NULLABLE field holds may be null",
                 completed().in(1).put(0, 1, 0).in(0).make(0, 2, 1).get(1, 0, 0).get(2, 1, 1),
                 NullnessFlow.ERR_DEREF, 2);
-        accepted("what was put into a NULLABLE field", new Subject().make(0, 1, 1).put(0, 0, 0).get(1, 0, 0).get(2, 1, 0));
+        accepted("what was put into a NULLABLE field",
+                new Subject().make(0, 1, 1).put(0, 0, 0).get(1, 0, 0).get(2, 1, 0));
         answers("a NEW may take away what was put into a NULLABLE field",
                 new Subject().make(0, 1, 1).put(0, 0, 0).make(3, 1, 0).get(1, 0, 0).get(2, 1, 0),
                 NullnessFlow.ERR_DEREF, 4);
@@ -149,7 +153,8 @@ public final class CheckTest {
         answers("THIS before NULLARG", new Subject().param(2, NN, FREE).in(1).make(0, 2, 1), NullnessFlow.ERR_THIS, 64);
         answers("THIS before DEREF", new Subject().in(1).get(0, 1, 0), NullnessFlow.ERR_THIS, 64);
         answers("NULLARG before INITARG", new Subject().param(2, NN, FREE).make(0, 2, 1), NullnessFlow.ERR_NULLARG, 0);
-        answers("DEREF before UNINIT", completed().param(1, MAYBE, FREE).in(1).get(2, 1, 1), NullnessFlow.ERR_DEREF, 64);
+        answers("DEREF before UNINIT", completed().param(1, MAYBE, FREE).in(1).get(2, 1, 1),
+                NullnessFlow.ERR_DEREF, 64);
         answers("DEREF before NULLSTORE", completed().in(1).put(1, 1, 2), NullnessFlow.ERR_DEREF, 64);
         answers("NULLSTORE before ESCAPE", completed().param(1, MAYBE, UNCLASSIFIED).in(1).make(3, 2, 4).put(3, 1, 1),
                 NullnessFlow.ERR_NULLSTORE, 65);
@@ -182,7 +187,8 @@ public final class CheckTest {
         accepted("behind JMP", new Subject().jump(2).get(0, 0, 0).show(0));
         accepted("the null way of what is not null", new Subject().make(0, 1, 1).ifNull(0, 3).ret().get(2, 3, 0));
         accepted("the null way of what is not null", new Subject().make(0, 1, 1).ifNonNull(0, 3).get(2, 3, 0));
-        answers("a loop brings null", new Subject().make(0, 1, 1).get(1, 0, 0).nil(0).jump(1), NullnessFlow.ERR_DEREF, 1);
+        answers("a loop brings null", new Subject().make(0, 1, 1).get(1, 0, 0).nil(0).jump(1),
+                NullnessFlow.ERR_DEREF, 1);
         answers("reached by a backward jump alone", new Subject().jump(3).get(0, 0, 0).ret().jump(1),
                 NullnessFlow.ERR_DEREF, 1);
     }

@@ -26,7 +26,8 @@ public final class CodeTest {
         for (int round = 0; round < 2; round++) {
             for (int pc = 0; pc < STORED.length; pc++) {
                 for (int part = 0; part < 4; part++) {
-                    EXPECT.same("code(" + block + ", " + pc + ", " + part + ")", x.code(block, pc, part), STORED[pc][part]);
+                    String call = "code(" + block + ", " + pc + ", " + part + ")";
+                    EXPECT.same(call, x.code(block, pc, part), STORED[pc][part]);
                 }
             }
             // The second round sees the code after a check and a run.

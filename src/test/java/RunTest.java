@@ -116,6 +116,8 @@ public final class RunTest {
         pcAfter("IFNULL of an object", new Subject().make(0, 1, 1).ifNull(0, 3).nil(0).nil(0), 3, 2);
         pcAfter("IFNONNULL of null", new Subject().ifNonNull(0, 3).nil(0).nil(0).nil(0), 1, 1);
         pcAfter("IFNONNULL of an object", new Subject().make(0, 1, 1).ifNonNull(0, 3).nil(0).nil(0), 3, 3);
+        pcAfter("IFNULL of another local", new Subject().make(3, 1, 1).ifNull(3, 0).nil(0), 3, 2);
+        pcAfter("IFNONNULL of another local", new Subject().make(3, 1, 1).ifNonNull(3, 3).nil(0), 3, 3);
         pcAfter("JMP", new Subject().jump(2).nil(0).nil(0), 1, 2);
         pcAfter("JMP above len", new Subject().jump(30).nil(0).nil(0), 1, 30);
         pcAfter("IFNULL above len", new Subject().ifNull(0, 32).nil(0), 1, 32);
@@ -172,11 +174,12 @@ public final class RunTest {
         x.check();
         EXPECT.same(what + ": before", x.run(before), RUNNING);
         String picture = x.picture();
+        String trapped = picture.replaceFirst(" (3[12]) 21 ", " $1 " + trap + " ");
         EXPECT.same(what, x.run(1), trap);
         EXPECT.same(what + ": status", x.info(16), trap);
-        EXPECT.same(what + ": nothing done", x.picture(), picture.replaceFirst(" (3[12]) 21 ", " $1 " + trap + " "));
+        EXPECT.same(what + ": nothing done", x.picture(), trapped);
         EXPECT.same(what + ": stays", x.run(10000), trap);
-        EXPECT.same(what + ": stays, nothing done", x.picture(), picture.replaceFirst(" (3[12]) 21 ", " $1 " + trap + " "));
+        EXPECT.same(what + ": stays, nothing done", x.picture(), trapped);
         x.check();
         EXPECT.same(what + ": until check", x.info(16), RUNNING);
         x.run(before + 1);

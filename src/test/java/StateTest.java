@@ -32,7 +32,8 @@ public final class StateTest {
 
     private static void locals(String what, Subject x, int block, int pc, int... due) {
         for (int local = 0; local < due.length; local++) {
-            EXPECT.same(what + ": state(" + block + ", " + pc + ", " + local + ")", x.state(block, pc, local), due[local]);
+            String call = what + ": state(" + block + ", " + pc + ", " + local + ")";
+            EXPECT.same(call, x.state(block, pc, local), due[local]);
         }
     }
 
@@ -119,7 +120,8 @@ public final class StateTest {
     }
 
     private static void puts() {
-        Subject x = new Subject().in(1).put(0, 0, 0).put(0, 3, 0).move(2, 0).put(2, 1, 0).put(2, 3, 4).put(4, 2, 0).put(2, 2, 4);
+        Subject x = new Subject().in(1).put(0, 0, 0).put(0, 3, 0).move(2, 0).put(2, 1, 0)
+                .put(2, 3, 4).put(4, 2, 0).put(2, 2, 4);
         x.check();
         int four = triple(MAYBE, COMMITTED, 4);
         EXPECT.same("PUT of what is not null", x.state(1, 2, 0), triple(NN, FREE, 9));
@@ -209,6 +211,11 @@ public final class StateTest {
         EXPECT.same("what the loop takes away", y.state(1, 1, 0), triple(NN, FREE, 0));
         EXPECT.same("what the loop puts back", y.state(1, 2, 0), triple(NN, FREE, 2));
         EXPECT.same("what is got is then not known", y.state(1, 3, 2), triple(MAYBE, UNCLASSIFIED, 0));
+        // Here the second round of a sweep forward raises nothing but a point that the null way leads back to.
+        Subject back = new Subject().ifNull(6, 5).make(0, 1, 7).move(2, 0).show(2).ifNull(5, 2).nil(0).jump(4);
+        back.check();
+        EXPECT.same("null carried back by a test", back.state(0, 2, 0), NULLV);
+        EXPECT.same("and on from there", back.state(0, 3, 2), NULLV);
         Subject entry = new Subject().make(0, 1, 0).jump(0);
         entry.check();
         EXPECT.same("a loop to point 0 joins with ENTRY", entry.state(0, 0, 0), NULLV);

@@ -11,7 +11,7 @@ final class Subject implements Calls {
     }
 
     @Override public boolean declareField(int f, int kind) { return flow.declareField(f, kind); }
-    @Override public boolean declareParam(int k, int nullness, int init) { return flow.declareParam(k, nullness, init); }
+    @Override public boolean declareParam(int k, int n, int i) { return flow.declareParam(k, n, i); }
     @Override public boolean select(int block) { return flow.select(block); }
     @Override public boolean emit(int op, int a, int b, int c) { return flow.emit(op, a, b, c); }
     @Override public int check() { return flow.check(); }
