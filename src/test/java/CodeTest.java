@@ -1,5 +1,3 @@
-import java.util.Arrays;
-
 // Promise 11: code answers the stored parts of an instruction, and NONE where there is none.
 public final class CodeTest {
     private static final Expect EXPECT = new Expect();
@@ -11,49 +9,111 @@ public final class CodeTest {
         {5, 3, 31, 0}, {6, 2, 30, 0}, {7, 32, 0, 0}, {8, 0, 0, 0}, {9, 6, 0, 0}};
 
     public static void main(String[] args) {
-        for (int block = 0; block < 4; block++) {
-            stored(block);
-        }
-        none();
+        stored();
+        noSuchBlock();
+        noSuchPc();
+        emptyAndFull();
+        noSuchPart();
+        changesNothing();
         EXPECT.end();
     }
 
-    private static void stored(int block) {
+    private static Subject written(int block) {
         Subject x = new Subject().in(block);
         for (int[] g : GIVEN) {
             EXPECT.yes("emit", x.emit(g[0], g[1], g[2], g[3]));
         }
-        for (int round = 0; round < 2; round++) {
-            for (int pc = 0; pc < STORED.length; pc++) {
-                for (int part = 0; part < 4; part++) {
-                    String call = "code(" + block + ", " + pc + ", " + part + ")";
-                    EXPECT.same(call, x.code(block, pc, part), STORED[pc][part]);
-                }
-            }
-            // The second round sees the code after a check and a run.
-            x.check();
-            x.run(20);
-        }
-        EXPECT.same("other block", x.code((block + 1) % 4, 0, 0), NullnessFlow.NONE);
+        return x;
     }
 
-    private static void none() {
-        int low = Integer.MIN_VALUE;
-        int high = Integer.MAX_VALUE;
-        Subject x = new Subject().show(1).show(2).in(3).show(3);
-        String before = x.picture();
-        int[][] calls = {{-1, 0, 0}, {4, 0, 0}, {0, -1, 0}, {0, 2, 0}, {1, 0, 0}, {3, 1, 0}, {0, 0, -1}, {0, 0, 4},
-            {low, 0, 0}, {high, 0, 0}, {0, low, 0}, {0, high, 0}, {0, 0, low}, {0, 0, high}};
-        for (int[] call : calls) {
-            EXPECT.same("code" + Arrays.toString(call), x.code(call[0], call[1], call[2]), NullnessFlow.NONE);
+    private static void none(Subject x, int block, int pc, int part) {
+        Scenes.answerNone(EXPECT, "code(" + block + ", " + pc + ", " + part + ")", x, y -> y.code(block, pc, part));
+    }
+
+    private static void stored() {
+        EXPECT.sentence("Answers the stored part (0 op, 1 a, 2 b, 3 c) of the instruction at pc in block,"
+                + " with unused operands as 0.");
+        for (int block = 0; block < 4; block++) {
+            Subject x = written(block);
+            for (int round = 0; round < 2; round++) {
+                for (int pc = 0; pc < STORED.length; pc++) {
+                    for (int part = 0; part < 4; part++) {
+                        String call = "code(" + block + ", " + pc + ", " + part + ")";
+                        EXPECT.same(call, x.code(block, pc, part), STORED[pc][part]);
+                    }
+                }
+                // The second round sees the code after a check and a run.
+                x.check();
+                x.run(20);
+            }
         }
-        EXPECT.same("the last one", x.code(0, 1, 1), 2);
-        EXPECT.same("picture", x.picture(), before);
-        Subject full = new Subject();
-        for (int i = 0; i < 32; i++) {
-            full.show(i % 8);
+    }
+
+    private static void noSuchBlock() {
+        EXPECT.sentence("Answers NONE unless block is in 0..3");
+        Subject x = new Subject();
+        for (int block = 0; block < 4; block++) {
+            x.in(block).pad(32);
         }
-        EXPECT.same("the last of a full block", full.code(0, 31, 1), 7);
-        EXPECT.same("beyond a full block", full.code(0, 32, 1), NullnessFlow.NONE);
+        for (int block : Beyond.range(0, 3)) {
+            for (int pc : new int[] {0, 31, 32, -32, -128, 128}) {
+                none(x, block, pc, 0);
+            }
+        }
+    }
+
+    private static void noSuchPc() {
+        EXPECT.sentence("pc is in 0..len-1");
+        for (int block = 0; block < 4; block++) {
+            Subject x = new Subject();
+            for (int other = 0; other < 4; other++) {
+                x.in(other).pad(other == block ? 0 : 32);
+            }
+            x.in(block);
+            for (int len = 0; len <= 32; len += 4) {
+                for (int pc = 0; pc < len; pc++) {
+                    EXPECT.same("code(" + block + ", " + pc + ", 1)", x.code(block, pc, 1), 7);
+                }
+                for (int pc : Beyond.range(0, len - 1)) {
+                    none(x, block, pc, 1);
+                }
+                x.pad(len < 32 ? 4 : 0);
+            }
+        }
+    }
+
+    private static void emptyAndFull() {
+        Subject x = new Subject(8, 8, 1).in(2).pad(7).show(5);
+        for (int block = 0; block < 4; block++) {
+            for (int part = 0; part < 4; part++) {
+                if (block != 2) {
+                    none(x, block, 0, part);
+                }
+            }
+        }
+        EXPECT.same("the first of a full block", x.code(2, 0, 1), 7);
+        EXPECT.same("the last of a full block", x.code(2, 7, 1), 5);
+        none(x, 2, 8, 1);
+    }
+
+    private static void noSuchPart() {
+        EXPECT.sentence("and part is in 0..3.");
+        Subject x = written(1);
+        for (int part : Beyond.range(0, 3)) {
+            for (int pc = 0; pc < STORED.length; pc++) {
+                none(x, 1, pc, part);
+            }
+        }
+    }
+
+    private static void changesNothing() {
+        EXPECT.sentence("Changes nothing.");
+        for (int block = 0; block < 4; block++) {
+            for (int part = 0; part < 4; part++) {
+                int b = block;
+                int p = part;
+                Scenes.leaveAll(EXPECT, "code(" + b + ", 0, " + p + ")", x -> x.code(b, 0, p));
+            }
+        }
     }
 }

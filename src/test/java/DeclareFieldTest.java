@@ -6,50 +6,79 @@ public final class DeclareFieldTest {
 
     public static void main(String[] args) {
         Scenes.asNamed(EXPECT);
-        for (int scene = 0; scene < Scenes.COUNT; scene++) {
-            taken(scene);
-            refused(scene);
-        }
-        kindBinds();
+        sets();
+        noSuchField();
+        noSuchKind();
+        resets();
+        nothingElse();
         EXPECT.end();
     }
 
-    private static void taken(int scene) {
+    private static void sets() {
+        EXPECT.sentence("Sets the kind of field f and answers true.");
         for (int f = 0; f < 4; f++) {
-            for (int kind = 0; kind < 2; kind++) {
-                String what = Scenes.name(scene) + ", declareField(" + f + ", " + kind + ")";
-                Subject x = Scenes.scene(scene);
-                int[] due = Scenes.program(x);
-                due[f] = kind;
-                EXPECT.yes(what, x.declareField(f, kind));
-                EXPECT.same(what, Arrays.toString(Scenes.program(x)), Arrays.toString(due));
-                Scenes.wasReset(EXPECT, what, x);
+            Subject x = new Subject().make(0, 1, 0).get(1, 0, f);
+            for (int kind : new int[] {NullnessFlow.NONNULL, NullnessFlow.NULLABLE}) {
+                boolean nullable = kind == NullnessFlow.NULLABLE;
+                EXPECT.yes("declareField(" + f + ", " + kind + ")", x.declareField(f, kind));
+                EXPECT.same("kind of field " + f, x.info(f), kind);
+                // The kind is not only shown: the checker and the machine both go by it.
+                EXPECT.same("check", x.check(), nullable ? NullnessFlow.OK : NullnessFlow.ERR_INCOMPLETE);
+                EXPECT.same("run", x.run(100), nullable ? NullnessFlow.HALTED : NullnessFlow.TRAP_NONNULL);
             }
         }
     }
 
-    private static void refused(int scene) {
-        int[][] calls = {{4, 0}, {4, 1}, {-1, 0}, {-1, 1}, {0, 2}, {0, -1}, {3, 2}, {Integer.MIN_VALUE, 0},
-            {Integer.MAX_VALUE, 1}, {1, Integer.MIN_VALUE}, {1, Integer.MAX_VALUE}};
-        Subject x = Scenes.scene(scene);
-        String before = x.picture();
-        for (int[] call : calls) {
-            String what = Scenes.name(scene) + ", declareField(" + call[0] + ", " + call[1] + ")";
-            EXPECT.no(what, x.declareField(call[0], call[1]));
-            EXPECT.same(what, x.picture(), before);
+    private static void noSuchField() {
+        EXPECT.sentence("Refused (false, nothing changes) unless f is in 0..3");
+        for (int f : Beyond.range(0, 3)) {
+            for (int kind = 0; kind < 2; kind++) {
+                refuse(f, kind);
+            }
         }
     }
 
-    // The kind is not only shown: the checker and the machine both go by it, and it can be taken back.
-    private static void kindBinds() {
-        Subject x = new Subject().make(0, 1, 0).get(1, 0, 3);
-        EXPECT.same("field 3 NULLABLE: check", x.check(), NullnessFlow.OK);
-        EXPECT.same("field 3 NULLABLE: run", x.run(100), NullnessFlow.HALTED);
-        x.declareField(3, NullnessFlow.NONNULL);
-        EXPECT.same("field 3 NONNULL: check", x.check(), NullnessFlow.ERR_INCOMPLETE);
-        EXPECT.same("field 3 NONNULL: run", x.run(100), NullnessFlow.TRAP_NONNULL);
-        x.declareField(3, NullnessFlow.NULLABLE);
-        EXPECT.same("field 3 NULLABLE again: check", x.check(), NullnessFlow.OK);
-        EXPECT.same("field 3 NULLABLE again: run", x.run(100), NullnessFlow.HALTED);
+    private static void noSuchKind() {
+        EXPECT.sentence("and kind is NONNULL or NULLABLE.");
+        for (int kind : Beyond.range(NullnessFlow.NONNULL, NullnessFlow.NULLABLE)) {
+            for (int f = -1; f <= 4; f++) {
+                refuse(f, kind);
+            }
+        }
+    }
+
+    private static void refuse(int f, int kind) {
+        Scenes.refuse(EXPECT, "declareField(" + f + ", " + kind + ")", x -> x.declareField(f, kind));
+    }
+
+    private static void resets() {
+        EXPECT.sentence("On success the Edits reset applies, even if the kind was already that value.");
+        for (int scene = 0; scene < Scenes.COUNT; scene++) {
+            for (int f = 0; f < 4; f++) {
+                for (int change = 0; change < 2; change++) {
+                    Subject x = Scenes.scene(scene);
+                    int kind = x.info(f) ^ change;
+                    String what = Scenes.name(scene) + ", declareField(" + f + ", " + kind + ")";
+                    EXPECT.yes(what, x.declareField(f, kind));
+                    Scenes.wasReset(EXPECT, what, x);
+                }
+            }
+        }
+    }
+
+    private static void nothingElse() {
+        EXPECT.sentence("Nothing else changes: parameters, code and the selected block stay.");
+        for (int scene = 0; scene < Scenes.COUNT; scene++) {
+            for (int block = 0; block < 4; block++) {
+                for (int f = 0; f < 4; f++) {
+                    Subject x = Scenes.scene(scene).in(block);
+                    int[] due = Scenes.program(x);
+                    due[f] = NullnessFlow.NULLABLE - due[f];
+                    x.declareField(f, due[f]);
+                    String what = Scenes.name(scene) + ", declareField(" + f + ", " + due[f] + ")";
+                    EXPECT.same(what, Arrays.toString(Scenes.program(x)), Arrays.toString(due));
+                }
+            }
+        }
     }
 }

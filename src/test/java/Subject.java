@@ -39,6 +39,14 @@ final class Subject implements Calls {
     Subject ret() { return must(flow.emit(NullnessFlow.RET, 0, 0, 0)); }
     Subject show(int s) { return must(flow.emit(NullnessFlow.OUT, s, 0, 0)); }
 
+    // Instructions that take room and do nothing of note.
+    Subject pad(int count) {
+        for (int i = 0; i < count; i++) {
+            nil(7);
+        }
+        return this;
+    }
+
     // Writing a program is not what is tested: a refusal there is a fault of the test or of emit.
     private Subject must(boolean taken) {
         if (!taken) {
@@ -49,9 +57,17 @@ final class Subject implements Calls {
 
     // Every answer that the object can give without being changed, a little beyond the edges too.
     static String picture(Calls x) {
+        int none = 21;
+        return pictureBut(x, none);
+    }
+
+    // The same without one of the numbers that info answers.
+    private static String pictureBut(Calls x, int left) {
         StringBuilder all = new StringBuilder();
         for (int k = -1; k <= 20; k++) {
-            all.append(x.info(k)).append(' ');
+            if (k != left) {
+                all.append(x.info(k)).append(' ');
+            }
         }
         all.append("| ").append(x.errorWhere()).append(" |");
         for (int block = 0; block < 4; block++) {
@@ -65,7 +81,11 @@ final class Subject implements Calls {
                 }
             }
         }
-        all.append(" |");
+        return all.append(" |").append(machine(x)).toString();
+    }
+
+    private static String machine(Calls x) {
+        StringBuilder all = new StringBuilder();
         for (int fr = -1; fr <= x.info(19); fr++) {
             for (int slot = -1; slot <= 12; slot++) {
                 all.append(' ').append(x.frame(fr, slot));
@@ -86,5 +106,14 @@ final class Subject implements Calls {
 
     String picture() {
         return picture(this);
+    }
+
+    String pictureBut(int left) {
+        return pictureBut(this, left);
+    }
+
+    // Only what a run can change but for the status.
+    String machine() {
+        return machine(this);
     }
 }
