@@ -158,6 +158,16 @@ public final class CheckTest {
             x.check();
             EXPECT.same(Scenes.name(scene), Arrays.toString(Scenes.program(x)), before);
         }
+        for (int error = 0; error <= 8; error++) {
+            Subject x = answering(error).in(1);
+            String before = Arrays.toString(Scenes.program(x));
+            x.check();
+            EXPECT.same("program for answer " + error, Arrays.toString(Scenes.program(x)), before);
+        }
+        Subject x = Scenes.allDeclared();
+        String before = Arrays.toString(Scenes.program(x));
+        EXPECT.same("all declared", x.check(), NullnessFlow.OK);
+        EXPECT.same("all declared", Arrays.toString(Scenes.program(x)), before);
     }
 
     private static void again() {

@@ -140,7 +140,8 @@ public final class EmitTest {
     }
 
     private static int[][] callsWithTarget(int t) {
-        return new int[][] {{NullnessFlow.JMP, t, 0, 0}, {NullnessFlow.IFNULL, 2, t, 0}, {NullnessFlow.IFNONNULL, 2, t, 0}};
+        return new int[][] {
+            {NullnessFlow.JMP, t, 0, 0}, {NullnessFlow.IFNULL, 2, t, 0}, {NullnessFlow.IFNONNULL, 2, t, 0}};
     }
 
     private static void fullBlock() {

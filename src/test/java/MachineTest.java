@@ -14,6 +14,7 @@ public final class MachineTest {
         mainFrame();
         outputList();
         start();
+        topFrame();
         returnAtEnd();
         returnOfOnlyFrame();
         returnToCaller();
@@ -23,6 +24,7 @@ public final class MachineTest {
         getOfNull();
         getOfNullField();
         getElse();
+        getOfEachObject();
         putIntoNull();
         putOfNull();
         putElse();
@@ -123,6 +125,18 @@ public final class MachineTest {
             EXPECT.same("frames", x.info(19), 1);
             slots(Scenes.name(scene), x, 0, -1, -1, -1, -1, -1, -1, -1, -1, 0, 0, -1, -1);
             EXPECT.same("status", x.info(16), RUNNING);
+        }
+    }
+
+    private static void topFrame() {
+        EXPECT.sentence("A STEP acts on the top frame");
+        Subject x = checked(new Subject().make(3, 1, 7).in(1).make(4, 2, 7).in(2).move(5, 0).nil(0).jump(0));
+        x.run(2);
+        for (int i = 0; i < 30; i++) {
+            slots("MAIN's frame", x, 0, -1, -1, -1, -1, -1, -1, -1, -1, 0, 1, -1, -1);
+            slots("the frame between", x, 1, 0, -1, -1, -1, -1, -1, -1, -1, 1, 1, 3, 0);
+            EXPECT.same("the top frame's pc", x.frame(2, 9), i % 3);
+            x.run(1);
         }
     }
 
@@ -309,6 +323,22 @@ public final class MachineTest {
         }
     }
 
+    // Every object but the first holds the one before it in one field and itself in the next; a loop gets both.
+    private static void getOfEachObject() {
+        for (int f = 0; f < 4; f++) {
+            int next = (f + 1) % 4;
+            Subject x = new Subject(16, 32, 2).make(0, 1, 7).put(0, f, 1).put(0, next, 0).move(1, 0);
+            x.get(2, 1, f).get(3, 1, next).get(4, 1, (f + 2) % 4).jump(0).check();
+            for (int o = 0; o < 32; o++) {
+                EXPECT.same("to object " + o, x.run(8), RUNNING);
+                EXPECT.same("the one before object " + o, x.frame(0, 2), o - 1);
+                EXPECT.same("object " + o + " itself", x.frame(0, 3), o);
+                EXPECT.same("a field of object " + o + " that was not put", x.frame(0, 4), -1);
+                x.run(1);
+            }
+        }
+    }
+
     private static void putIntoNull() {
         EXPECT.sentence("PUT: x null: TRAP_DEREF.");
         for (int f = 0; f < 4; f++) {
@@ -324,7 +354,8 @@ public final class MachineTest {
         for (int f = 0; f < 4; f++) {
             traps("field " + f, new Subject().nonNullField(f).make(0, 1, 1).put(0, f, 1), 2, NullnessFlow.TRAP_NONNULL);
             traps("field " + f + " that is not null",
-                    new Subject().nonNullField(f).make(0, 1, 1).put(0, f, 0).put(0, f, 1), 3, NullnessFlow.TRAP_NONNULL);
+                    new Subject().nonNullField(f).make(0, 1, 1).put(0, f, 0).put(0, f, 1), 3,
+                    NullnessFlow.TRAP_NONNULL);
         }
     }
 

@@ -163,6 +163,18 @@ public final class RunTest {
             EXPECT.same(Scenes.name(scene) + ": state", x.state(1, 1, 2), state);
             EXPECT.same(Scenes.name(scene) + ": program", Arrays.toString(Scenes.program(x)), before);
         }
+        Subject x = Scenes.allDeclared();
+        String before = Arrays.toString(Scenes.program(x));
+        x.check();
+        EXPECT.same("all declared", x.run(100), NullnessFlow.HALTED);
+        EXPECT.same("all declared: program", Arrays.toString(Scenes.program(x)), before);
+        EXPECT.same("all declared: checker", x.info(15), NullnessFlow.ACCEPTED);
+        for (int status = Endings.FIRST; status <= Endings.LAST; status++) {
+            Subject rejected = Endings.program(status).in(3).nil(0);
+            rejected.check();
+            EXPECT.same("rejected", rejected.run(100), status);
+            EXPECT.same("rejected, ended with " + status, rejected.info(15), NullnessFlow.REJECTED);
+        }
     }
 
     // Constructor 3 is never run here: an error in it makes the program REJECTED and must change nothing of the run.

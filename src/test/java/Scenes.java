@@ -59,6 +59,20 @@ final class Scenes {
         return x.in(3);
     }
 
+    // No declaration is as in a new object but for one init, and there is code in all blocks; not checked.
+    static Subject allDeclared() {
+        Subject x = new Subject().make(0, 3, 7).make(1, 2, 0).show(1);
+        for (int f = 0; f < 4; f++) {
+            x.nonNullField(f);
+        }
+        x.param(1, NullnessFlow.NONNULL, NullnessFlow.FREE);
+        x.param(2, NullnessFlow.NONNULL, NullnessFlow.UNCLASSIFIED);
+        for (int k = 1; k <= 3; k++) {
+            x.in(k).put(0, 0, 0).put(0, 1, 0).put(0, 2, 0).put(0, 3, 0).pad(k);
+        }
+        return x;
+    }
+
     // The scenes must be what their names say, or the tests that use them would show little.
     static void asNamed(Expect expect) {
         for (int i = 0; i < COUNT; i++) {

@@ -16,6 +16,8 @@ public final class SoundnessTest {
 
     public static void main(String[] args) {
         SoundnessTest test = new SoundnessTest();
+        test.expect.sentence("run never answers TRAP_DEREF or TRAP_NONNULL, and info(16) is never either of them; this"
+                + " holds also inside constructors and for objects still under construction.");
         for (int i = 0; i < PROGRAMS && !test.expect.failed(); i++) {
             test.write();
             test.mendAndRun(i);
@@ -72,13 +74,17 @@ public final class SoundnessTest {
         for (int i = 0; i < 300; i++) {
             int status = x.run(1);
             deepest = Math.max(deepest, x.info(19));
-            expect.no("accepted program " + program + " traps on null",
-                    status == NullnessFlow.TRAP_DEREF || status == NullnessFlow.TRAP_NONNULL);
+            expect.no("accepted program " + program + " traps on null", trapsOnNull(status));
+            expect.no("accepted program " + program + " has trapped on null", trapsOnNull(x.info(16)));
         }
         if (kinds[0] * kinds[1] * kinds[2] * kinds[3] == 0 && x.info(17) > 0) {
             ran++;
             ranDeep += deepest > 2 ? 1 : 0;
         }
+    }
+
+    private static boolean trapsOnNull(int status) {
+        return status == NullnessFlow.TRAP_DEREF || status == NullnessFlow.TRAP_NONNULL;
     }
 
     // A constructor that leaves a field out gets a put of it, early or late; what else is reported is taken out.
