@@ -10,6 +10,7 @@ public final class RunTest {
 
     public static void main(String[] args) {
         unchecked();
+        checked();
         negative();
         inRange();
         aboveMost();
@@ -35,6 +36,19 @@ public final class RunTest {
                 EXPECT.same("run(" + steps + "): picture", x.picture(), before);
             }
         }
+    }
+
+    private static void checked() {
+        EXPECT.sentence("Otherwise (ACCEPTED or REJECTED) the machine runs");
+        Subject accepted = new Subject().show(0);
+        EXPECT.same("accepted", accepted.check(), NullnessFlow.OK);
+        EXPECT.same("accepted, run(1)", accepted.run(1), RUNNING);
+        EXPECT.same("accepted: outputs", accepted.info(18), 1);
+        Subject rejected = new Subject().show(0).in(3).nil(0);
+        EXPECT.same("rejected", rejected.check(), NullnessFlow.ERR_THIS);
+        EXPECT.same("rejected, run(1)", rejected.run(1), RUNNING);
+        EXPECT.same("rejected: outputs", rejected.info(18), 1);
+        EXPECT.same("rejected, to the end", rejected.run(1), NullnessFlow.HALTED);
     }
 
     // Loops of 29, 30 and 31 instructions tell by their pcs how many steps were made, up to some 27000.
