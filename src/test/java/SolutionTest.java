@@ -34,6 +34,8 @@ public final class SolutionTest {
         entryIsBelowPointZero();
         loops();
         longLoop();
+        lapsBack();
+        lapsForward();
         EXPECT.end();
     }
 
@@ -434,6 +436,51 @@ public final class SolutionTest {
             EXPECT.same("in the loop, local " + local, x.state(0, 30, local), NULLV);
             EXPECT.same("at the loop's last turn, local " + local, x.state(0, first, local), NULLV);
             EXPECT.same("END, local " + local, x.state(0, 32, local), -1);
+        }
+    }
+
+    // Seven moves that carry an init state one local further in each lap of the loop that they stand in.
+    private static Subject moveOn(Subject x) {
+        for (int local = 7; local > 0; local--) {
+            x.move(local, local - 1);
+        }
+        return x;
+    }
+
+    private static void moved(String what, Subject x, int moves) {
+        int c = triple(MAYBE, UNCLASSIFIED, 0);
+        locals(what + ", before the moves", x, 1, moves, THIS, c, c, c, c, c, c, c);
+        locals(what + ", behind them", x, 1, moves + 7, THIS, THIS, c, c, c, c, c, c);
+        EXPECT.same(what + ", END", x.state(1, 32, 7), -1);
+        EXPECT.same(what + ", error", x.errorWhere(), -1);
+    }
+
+    // The rest of the block leads back step by step: a checker that goes over the points from the first to the last
+    // gets one step further each time, so the seven laps take it some 170 times.
+    private static void lapsBack() {
+        EXPECT.sentence("loops carried on until nothing changes");
+        Subject x = moveOn(new Subject().in(1)).jump(31).jump(0);
+        for (int pc = 9; pc < 32; pc++) {
+            x.jump(pc - 1);
+        }
+        x.check();
+        moved("back", x, 0);
+        for (int pc = 7; pc < 32; pc++) {
+            EXPECT.same("on the way back, point " + pc, x.state(1, pc, 7), triple(MAYBE, UNCLASSIFIED, 0));
+        }
+    }
+
+    // The same for a checker that goes over the points from the last to the first.
+    private static void lapsForward() {
+        EXPECT.sentence("carried on until nothing changes");
+        Subject x = new Subject().in(1);
+        for (int pc = 0; pc < 24; pc++) {
+            x.jump(pc + 1);
+        }
+        moveOn(x).jump(0).check();
+        moved("forward", x, 24);
+        for (int pc = 0; pc < 24; pc++) {
+            EXPECT.same("on the way forward, point " + pc, x.state(1, pc, 7), triple(MAYBE, UNCLASSIFIED, 0));
         }
     }
 }
