@@ -138,6 +138,25 @@ public final class MachineTest {
             EXPECT.same("the top frame's pc", x.frame(2, 9), i % 3);
             x.run(1);
         }
+        for (int d = 0; d < 8; d++) {
+            topLocal(d);
+        }
+    }
+
+    // MAIN's locals all name object 0 while object 1's constructor assigns to each of its own.
+    private static void topLocal(int d) {
+        Subject x = new Subject().make(0, 2, 0);
+        for (int local = 1; local < 8; local++) {
+            x.move(local, 0);
+        }
+        x.make(7, 1, 0).in(1).move(d, 0).nil(d).move(d, 1).check();
+        x.run(2 + 7 + 1);
+        int[] values = {1, -1, d == 1 ? -1 : 0};
+        for (int due : values) {
+            x.run(1);
+            slots("MAIN's locals stay", x, 0, 0, 0, 0, 0, 0, 0, 0, 0, 0, 9, -1, -1);
+            EXPECT.same("local " + d + " of the top frame", x.frame(1, d), due);
+        }
     }
 
     private static void returnAtEnd() {
